@@ -22,6 +22,7 @@ public final class ChangesTest {
         strikesAndBans();
         bansOverlap();
         ordersMoveOn();
+        lastDay();
         failedChangesChangeNothing();
         Due.end();
     }
@@ -123,6 +124,13 @@ public final class ChangesTest {
         Due.is("3: order(0, 1, 0) at the new price", x.order(0, 1, 0), 4);
         x.price(1, 0, 3);
         Due.is("3: callOff(0, 1) gives what was paid", x.callOff(0, 1), 5);
+        x.price(4, 0, 3);
+        x.order(0, 4, 0);
+        x.order(0, 3, 0);
+        x.price(4, 0, 1);
+        Look.carryOut(x, "k;x");
+        Due.is("3: callOff(0, 3) gives what was paid the day before", x.callOff(0, 3), 4);
+        Due.is("3: callOff(0, 2) gives what was paid the day before", x.callOff(0, 2), 5);
     }
 
     private static void person() {
@@ -146,12 +154,15 @@ public final class ChangesTest {
 
     /** A person who comes where another one was undone has nothing of the other one. */
     private static void personAfresh() {
-        CanteenPlates x = new CanteenPlates();
-        x.save(0);
-        Look.carryOut(x, "p;v0+20;o0a;o0b+3;k;c0;x;o0a;k;x");
-        x.restore(0);
-        Due.is("4: person()", x.person(), 0);
-        Due.same("4: a person afresh", Look.atState(x), Look.atState(Look.after("p")));
+        String[] others = {"p;v0+20;o0a;o0b+3;k;c0;x;o0a;k;x", "p;k;c0a", "p;o0a;k;x;o0a;k;x;o0a;k;x"};
+        for (String other : others) {
+            CanteenPlates x = new CanteenPlates();
+            x.save(0);
+            Look.carryOut(x, other);
+            x.restore(0);
+            Due.is("4: person()", x.person(), 0);
+            Due.same("4: a person afresh", Look.atState(x), Look.atState(Look.after("p")));
+        }
     }
 
     private static void vouchers() {
@@ -537,6 +548,20 @@ public final class ChangesTest {
             x.close();
         }
         Due.is("11: of(0, 5)", x.of(0, 5), 5);
+    }
+
+    /** This takes more calls than the document promises answers for; the bound is kept all the same. */
+    private static void lastDay() {
+        CanteenPlates x = Look.after("p");
+        for (int day = 0; day < 9999; day++) {
+            x.cook();
+            x.close();
+        }
+        Due.is("11: count(0)", x.count(0), 9999);
+        Due.is("11: order(0, 4, 0)", x.order(0, 4, 0), 4);
+        x.cook();
+        Due.is("11: close(), the day would be 10000", x.close(), Look.NOT_POSSIBLE);
+        Due.is("11: count(2)", x.count(2), 1);
     }
 
     /** Calls that fail leave all as it is, the history too. */

@@ -11,6 +11,8 @@ public final class QuestionsTest {
         why();
         unsurest();
         unsurestTies();
+        smallestDoubt();
+        allFourteen();
         firstOrder();
         wasted();
         wastedTies();
@@ -179,6 +181,7 @@ public final class QuestionsTest {
     }
 
     private static void unsurest() {
+        Due.is("17: unsurest(0), nobody came or stayed away", Look.after("p;o0a;k").unsurest(0), Look.NONE);
         CanteenPlates x = Look.after("p;p;p;o0a;o1b;o2c;k;c0;c1;c2;x");
         Due.is("17: unsurest(0), nobody has a doubt", x.unsurest(0), Look.NONE);
         Due.is("17: unsurest(1), nobody has a doubt", x.unsurest(1), Look.NONE);
@@ -216,6 +219,41 @@ public final class QuestionsTest {
         Look.carryOut(y, "o1a;k;c1;x");
         Due.is("17: unsurest(0), two of six", y.unsurest(0), 1);
         Due.is("17: unsurest(1), two of six", y.unsurest(1), 33);
+    }
+
+    /** One time of a hundred is a doubt of 1, one of 101 is none. */
+    private static void smallestDoubt() {
+        CanteenPlates x = Look.after("p;o0a;k;x");
+        for (int week = 0; week < 19; week++) {
+            Look.carryOut(x, "v0+5;o0a;k;c0;x;o0a;k;c0;x;o0a;k;c0;x;o0a;k;c0;x;o0a;k;c0;x");
+        }
+        Look.carryOut(x, "o0a;k;c0;x;o0a;k;c0;x;o0a;k;c0;x;o0a;k;c0;x");
+        Due.is("17: of(0, 5)", x.of(0, 5), 99);
+        Due.is("17: unsurest(0)", x.unsurest(0), 0);
+        Due.is("17: unsurest(1)", x.unsurest(1), 1);
+        Look.carryOut(x, "v0+5;o0a;k;c0;x");
+        Due.is("17: unsurest(0), one of 101", x.unsurest(0), Look.NONE);
+        Due.is("17: unsurest(1), one of 101", x.unsurest(1), Look.NONE);
+    }
+
+    /** Fourteen people who all stay away, and may not order then. */
+    private static void allFourteen() {
+        CanteenPlates x = Look.after("p;p;p;p;p;p;p;p;p;p;p;p;p;p");
+        x.set(CanteenPlates.STRIKES, 1);
+        for (int person = 0; person < 14; person++) {
+            x.order(person, 0, 1);
+        }
+        Due.is("13: ofDish(1, 2)", x.ofDish(1, 2), 14);
+        Due.is("14: ordered(0, 1)", x.ordered(0, 1), 16383);
+        Due.is("8: cook()", x.cook(), 17);
+        Due.is("11: close()", x.close(), 14);
+        Due.is("15: count(7)", x.count(7), 56);
+        Due.is("15: count(8)", x.count(8), 16383);
+        Due.is("15: count(9)", x.count(9), 14);
+        Due.is("17: unsurest(0)", x.unsurest(0), 0);
+        Due.is("18: firstOrder(13)", x.firstOrder(13), Look.NONE);
+        Due.is("24: undo()", x.undo(), 5);
+        Due.is("15: count(8)", x.count(8), 0);
     }
 
     private static void firstOrder() {

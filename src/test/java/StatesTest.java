@@ -6,6 +6,8 @@ public final class StatesTest {
     public static void main(String[] args) {
         undoEachChange();
         allPrices();
+        undoStaysAndBans();
+        undoPaid();
         undoDepth();
         undoRecords();
         undoLeavesPadAndSlots();
@@ -91,6 +93,38 @@ public final class StatesTest {
                 Due.is("26: price(" + weekday + ", " + dish + ", 1) restored", x.price(weekday, dish, 1), 2);
             }
         }
+    }
+
+    private static void undoStaysAndBans() {
+        CanteenPlates x = Look.after("p;o0a;k;x;o0a;k;x;o0a;k");
+        String before = Look.atState(x);
+        x.save(0);
+        x.close();
+        Due.is("24: of(0, 4)", x.of(0, 4), 8);
+        x.undo();
+        Due.same("24: the state behind undo() of a ban", Look.atState(x), before);
+        x.come(0);
+        x.undo();
+        Due.is("24: of(0, 3) behind undo() of come()", x.of(0, 3), 2);
+        x.close();
+        x.restore(0);
+        Due.same("26: the state ahead of the ban", Look.atState(x), before);
+    }
+
+    /** What was paid shows only in what is given back. */
+    private static void undoPaid() {
+        CanteenPlates x = new CanteenPlates();
+        x.price(1, 0, 3);
+        Look.carryOut(x, "p;o0a+1");
+        x.save(0);
+        x.callOff(0, 1);
+        x.order(0, 1, 1);
+        x.undo();
+        x.undo();
+        Due.is("24: callOff(0, 1)", x.callOff(0, 1), 5);
+        x.order(0, 1, 1);
+        x.restore(0);
+        Due.is("26: callOff(0, 1)", x.callOff(0, 1), 5);
     }
 
     private static void undoDepth() {
