@@ -1,7 +1,8 @@
-/** Long runs of calls, the same in every test, on an object and on the model of the document. */
+/** Long runs of calls, the same in every test, and all short texts, on an object and on the model of the document. */
 public final class ModelTest {
     private static final int RUNS = 3000;
     private static final int CALLS = 512;
+    private static final String SIGNS = "pvockx;+019abcd?";
     private static final int[] ODD = {-1, -2, 3, 4, 5, 9, 13, 14, 15, 31, 99, Integer.MIN_VALUE, Integer.MAX_VALUE};
 
     private final CanteenPlates x = new CanteenPlates();
@@ -20,10 +21,24 @@ public final class ModelTest {
     }
 
     public static void main(String[] args) {
+        shortTexts("", 4);
         for (int run = 0; run < RUNS && !Due.anyWrong(); run++) {
             new ModelTest(run).calls();
         }
         Due.end();
+    }
+
+    /** All texts of a few signs that begin so, with each sign that has a place in texts, and some that have none. */
+    private static void shortTexts(String start, int more) {
+        CanteenPlates x = new CanteenPlates();
+        Model model = new Model();
+        x.put(Look.packed(start));
+        model.put(Look.packed(start));
+        Due.is("fault() of " + start, x.fault(), model.fault());
+        Due.is("carryOut() of " + start, x.carryOut(), model.carryOut());
+        for (int sign = 0; sign < SIGNS.length() && more > 0; sign++) {
+            shortTexts(start + SIGNS.charAt(sign), more - 1);
+        }
     }
 
     private void calls() {

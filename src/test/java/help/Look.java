@@ -60,6 +60,43 @@ final class Look {
         return x.carryOut();
     }
 
+    /** A new object with other settings. */
+    static CanteenPlates with(int spare, int keep, int strikes, int ban) {
+        CanteenPlates x = new CanteenPlates();
+        x.set(CanteenPlates.SPARE, spare);
+        x.set(CanteenPlates.KEEP, keep);
+        x.set(CanteenPlates.STRIKES, strikes);
+        x.set(CanteenPlates.BAN, ban);
+        return x;
+    }
+
+    /** So many people come to work. */
+    static void people(CanteenPlates x, int many) {
+        for (int person = 0; person < many; person++) {
+            x.person();
+        }
+    }
+
+    /** So many days on which the kitchen cooks and nobody comes. */
+    static void days(CanteenPlates x, int many) {
+        for (int day = 0; day < many; day++) {
+            x.cook();
+            x.close();
+        }
+    }
+
+    /** So many days on which the person orders dish 0 for today, and comes or stays away. */
+    static void days(CanteenPlates x, int many, int person, boolean comes) {
+        for (int day = 0; day < many; day++) {
+            x.order(person, 0, 0);
+            x.cook();
+            if (comes) {
+                x.come(person);
+            }
+            x.close();
+        }
+    }
+
     /** A new object behind the orders of some texts. */
     static CanteenPlates after(String... texts) {
         CanteenPlates x = new CanteenPlates();
