@@ -476,6 +476,7 @@ public final class BoundaryQuestionsTest {
         Look.carryOut(x, "v0+9;k;c0c;x");
         Due.is("wasted(), 3 of 4 each", x.wasted(), 0);
         wastedRoundedDown();
+        wastedInHundredths();
     }
 
     /** So many days with one plate of each dish; on the first ones some are eaten. */
@@ -495,6 +496,32 @@ public final class BoundaryQuestionsTest {
         Look.carryOut(x, "k;c0a;x;k;c0a;x");
         // 173, 174 and 175 of 177 are 97, 98 and 98 of a hundred.
         Due.is("wasted(), rounded down", x.wasted(), 1);
+    }
+
+    /** Of 171 plates of each dish and one more a day one is eaten each day, of one dish after the other. */
+    private static void wastedInHundredths() {
+        CanteenPlates x = Look.with(9, 0, 9, 1);
+        Look.people(x, 4);
+        for (int person = 0; person < 4; person++) {
+            x.vouchers(person, 30);
+        }
+        Look.days(x, 19);
+        x.set(CanteenPlates.SPARE, 1);
+        int[] eaten = new int[3];
+        int[] eatenOn = {0, 1, 0, 2, 2, 1, 1};
+        for (int day = 1; day <= 56; day++) {
+            int dish = eatenOn[day % 7];
+            x.cook();
+            Due.is("buy() on day " + day, x.buy(day % 4, dish) < 0 ? 1 : 0, 0);
+            x.close();
+            eaten[dish]++;
+            int cooked = 171 + day;
+            int due = 0;
+            for (int other = 1; other < 3; other++) {
+                due = 100 * (cooked - eaten[other]) / cooked > 100 * (cooked - eaten[due]) / cooked ? other : due;
+            }
+            Due.is("wasted() of " + cooked + ", eaten " + eaten[0] + ", " + eaten[1] + ", " + eaten[2], x.wasted(), due);
+        }
     }
 
     private static void wastedNone() {
