@@ -83,6 +83,7 @@ public final class FaceTest {
         for (String method : FACE) {
             names.add(method.substring(0, method.indexOf('(')));
         }
+        Due.is("twenty fields at most", fieldsOf(CanteenPlates.class) <= 20 ? 1 : 0, 1);
         Class<?>[] nested = CanteenPlates.class.getDeclaredClasses();
         Due.is("twelve classes at most", Math.min(nested.length, 11), nested.length);
         for (Class<?> type : nested) {
@@ -92,11 +93,21 @@ public final class FaceTest {
                 Due.is(type + "'s " + method + " has a name of the face", names.contains(method.getName()) ? 1 : 0, 0);
                 Due.is("parameters of " + method, method.getParameterCount() <= 7 ? 1 : 0, 1);
             }
+            Due.is("twenty fields at most in " + type, fieldsOf(type) <= 20 ? 1 : 0, 1);
             for (Field field : type.getDeclaredFields()) {
                 boolean goodStatic = !Modifier.isStatic(field.getModifiers()) || Modifier.isFinal(field.getModifiers());
                 Due.is("static fields are final: " + field, goodStatic ? 1 : 0, 1);
             }
         }
+    }
+
+    /** How many fields there are beside the constants. */
+    private static int fieldsOf(Class<?> type) {
+        int many = 0;
+        for (Field field : type.getDeclaredFields()) {
+            many += Modifier.isStatic(field.getModifiers()) ? 0 : 1;
+        }
+        return many;
     }
 
     private static void source(String program) {
@@ -111,6 +122,25 @@ public final class FaceTest {
             }
         }
         methodLengths(program.split("\n"));
+        objectsMade(code.split("\n"));
+    }
+
+    /** Rows are made with an object's fields and in constructors alone, so that no call makes any. */
+    private static void objectsMade(String[] lines) {
+        boolean inMethod = false;
+        int made = 0;
+        for (String line : lines) {
+            if (line.matches("( {4}| {8})\\w.*\\) \\{")) {
+                inMethod = !line.matches("( {4}| {8})(public )?[A-Z]\\w*\\(.*");
+            } else if (line.matches("( {4}| {8})\\}")) {
+                inMethod = false;
+            }
+            if (line.matches(".*(\\bnew\\b|\\bclone\\b|\\bcopyOf|\\bsubstring\\b|\\btoCharArray\\b|List\\b|\").*")) {
+                made++;
+                Due.same("made in a method: " + line, inMethod ? "yes" : "no", "no");
+            }
+        }
+        Due.is("some are made", Math.min(made, 1), 1);
     }
 
     /** A method begins and ends at an indent of four or, inside a class, of eight. */
